@@ -182,7 +182,8 @@ public final class BusServo {
         motion.rest(sample);
         power.comeUp();
         watch.disarm();
-        out.forget();
+        // what was sent as OUT is forgotten later, when OPERATING is entered
+        out.forgetSyncs();
         networkState = PREPARING;
         beatCount = 0;
         mailbox.setBus(true);
@@ -1153,7 +1154,6 @@ public final class BusServo {
 
         void disarm() {
             armed = false;
-            count = 0;
         }
 
         /** One more tick; answers whether the time is over, and then the watch is disarmed. */
@@ -1177,12 +1177,6 @@ public final class BusServo {
         private long lastData;
         private int lastLength;
         private int syncs;
-
-        void forget() {
-            sent = false;
-            ticksAgo = 0;
-            syncs = 0;
-        }
 
         void beginOperating() {
             sent = false;

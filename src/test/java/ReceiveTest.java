@@ -159,6 +159,8 @@ public final class ReceiveTest {
         bench.prepare();
         bench.set(0x1016, 1, 4, 127 << 16 | 65535);
         Check.same("the greatest WATCH", servo.receive(0x77F, 1, 5), 5);
+        bench.set(0x1016, 1, 4, 1 << 16 | 1);
+        Check.same("the least WATCH", servo.receive(0x701, 1, 5), 5);
         bench.set(0x1016, 1, 4, 3 << 16 | 1);
         Check.same("the own node", servo.receive(0x703, 1, 5), 5);
     }

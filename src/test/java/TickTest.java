@@ -16,6 +16,8 @@ public final class TickTest {
         outBySyncThenByTick();
         outLost();
         orderOfSteps();
+        countsApart();
+        enabledFromTheSample();
         Check.end();
     }
 
@@ -423,5 +425,54 @@ public final class TickTest {
         late.drain();
         late.servo.tick(0);
         late.expect("OUT", 0x185, 2, 0x627);
+    }
+
+    /** WATCH, BEAT and TYPE each touch their own count alone. */
+    private static void countsApart() {
+        Bench bench = new Bench(5);
+        bench.set(0x1A00, 0, 1, 0);
+        bench.set(0x1017, 0, 2, 5);
+        bench.servo.run(4);
+        bench.set(0x1016, 1, 4, 9 << 16 | 3);
+        bench.set(0x1800, 2, 1, 3);
+        bench.servo.run(1);
+        bench.expect("the count for BEAT went on", 0x705, 1, 127);
+        bench.servo.receive(0x709, 1, 5);
+        bench.servo.run(2);
+        bench.set(0x1017, 0, 2, 0);
+        bench.set(0x1800, 2, 1, 3);
+        bench.servo.run(1);
+        Check.same("the watch stayed armed", bench.servo.power(), 7);
+        Bench synced = new Bench(5);
+        synced.set(0x1800, 2, 1, 3);
+        synced.operate();
+        synced.servo.receive(0x80, 0, 0);
+        synced.servo.receive(0x80, 0, 0);
+        synced.set(0x1017, 0, 2, 500);
+        synced.set(0x1016, 1, 4, 7);
+        synced.set(0x1800, 3, 2, 1);
+        synced.set(0x1800, 5, 2, 1);
+        synced.servo.receive(0x80, 0, 0);
+        synced.expect("the count of SYNC went on", 0x185, 2, 0x240);
+        synced.set(0x1800, 2, 1, 255);
+        synced.servo.run(3);
+        Check.same("EVERY 1", synced.servo.waiting(), 3);
+    }
+
+    /** With the stage off P becomes the sample before the order, so the trajectory begins there. */
+    private static void enabledFromTheSample() {
+        Bench bench = new Bench(5);
+        bench.powerTo(3, 0);
+        bench.control(15);
+        bench.servo.tick(500);
+        Check.same("power", bench.servo.power(), 4);
+        Check.same("position", bench.servo.position(), 490);
+        Bench there = new Bench(5);
+        there.set(0x607A, 0, 4, 500);
+        there.powerTo(3, 0);
+        there.control(15);
+        there.servo.tick(500);
+        Check.same("already there", there.servo.position(), 500);
+        Check.same("STATUS", there.status(), 0x427);
     }
 }

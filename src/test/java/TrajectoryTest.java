@@ -7,6 +7,7 @@ public final class TrajectoryTest {
         quickStop();
         modeChange();
         limits();
+        everyCap();
         Random random = new Random(20261115L);
         for (int k = 0; k < 400; k++) {
             compared(random);
@@ -126,6 +127,21 @@ public final class TrajectoryTest {
         floor.set(0x6060, 0, 1, 3);
         floor.set(0x60FF, 0, 4, -20);
         moves(floor, new int[] {-20, -20, -10, 0, 0});
+    }
+
+    private static void everyCap() {
+        for (int cap = 1; cap <= 1000; cap++) {
+            Bench bench = enabled(1000, 1000, cap, 0);
+            bench.set(0x6060, 0, 1, 3);
+            bench.set(0x60FF, 0, 4, cap % 2 == 0 ? 1000 : -1000);
+            moves(bench, new int[] {cap % 2 == 0 ? cap : -cap});
+        }
+        Bench slow = enabled(1000, 1000, 1000, 0);
+        slow.set(0x6060, 0, 1, 3);
+        slow.set(0x60FF, 0, 4, 1);
+        moves(slow, new int[] {1, 1});
+        slow.set(0x60FF, 0, 4, -1);
+        moves(slow, new int[] {0, -1, -1});
     }
 
     /** One drive with chance settings, whose targets change on the way. */
