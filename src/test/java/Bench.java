@@ -10,6 +10,38 @@ final class Bench {
         this.servo = new BusServo(node);
     }
 
+    /**
+     * A drive with node 5 and TARGET 100000 in this power state, in 4 with a SPEED of 200, in 5 of 150, in
+     * 6 of 200; bit 7 of CONTROL was 0 at the tick before, if there was one.
+     */
+    static Bench inState(int state) {
+        Bench bench = new Bench(5);
+        bench.set(0x607A, 0, 4, 100000);
+        if (state == 7) {
+            bench.cutBus();
+            return bench;
+        }
+        if (state < 4) {
+            if (state > 1) {
+                bench.powerTo(state, 0);
+            }
+            return bench;
+        }
+        bench.set(0x6081, 0, 4, 1000);
+        bench.powerTo(4, 0);
+        bench.servo.run(19);
+        Check.same("speed", bench.servo.speed(), 200);
+        if (state == 5) {
+            bench.control(2);
+            bench.servo.run(1);
+        }
+        if (state == 6) {
+            bench.cutBus();
+        }
+        Check.same("state", bench.servo.power(), state);
+        return bench;
+    }
+
     static long frame(int command, int index, int sub, int value) {
         return (command & 0xFFL) | (long) index << 8 | (long) sub << 24 | (long) value << 32;
     }
@@ -56,6 +88,52 @@ final class Bench {
 
     void control(int value) {
         set(0x6040, 0, 2, value);
+    }
+
+    /** The bus goes off and on again, which is a FAULT. */
+    void cutBus() {
+        servo.bus(false);
+        servo.bus(true);
+    }
+
+    /** Any frame to the channel, its answer left in the mailbox. */
+    void send(int command, int index, int sub, int value) {
+        Check.same("taken by the channel", servo.receive(0x600 + node, 8, frame(command, index, sub, value)), 4);
+    }
+
+    /** Fills the mailbox up to so many frames with answers. */
+    void fillTo(int frames) {
+        for (int k = servo.waiting(); k < frames; k++) {
+            send(0x40, 0x1001, 0, 0);
+        }
+        Check.same("waiting", servo.waiting(), frames);
+    }
+
+    /** Gives an index (1600 or 1A00) these entries and makes its COUNT their number. */
+    void map(int index, int... entries) {
+        set(index, 0, 1, 0);
+        for (int k = 0; k < entries.length; k++) {
+            set(index, k + 1, 4, entries[k]);
+        }
+        set(index, 0, 1, entries.length);
+    }
+
+    int in(int length, long data) {
+        return servo.receive(0x200 + node, length, data);
+    }
+
+    int sync() {
+        return servo.receive(0x80, 0, 0);
+    }
+
+    /** Arms the watch over node 9 with this time. */
+    void watch(int time) {
+        set(0x1016, 1, 4, 9 << 16 | time);
+        Check.same("heartbeat", servo.receive(0x709, 1, 5), 5);
+    }
+
+    int value(int index, int sub) {
+        return servo.object(index, sub);
     }
 
     int status() {

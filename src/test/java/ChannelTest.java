@@ -1,29 +1,11 @@
 /** Promise 2: the channel: the objects, what is read and written, and the codes in their order. */
 public final class ChannelTest {
-    private static final int R = 'r';
-    private static final int W = 'w';
-    private static final int B = 'b';
-    private static final int S = 's';
-    private static final int M = 'm';
-    private static final int LOW = Integer.MIN_VALUE;
-    private static final int HIGH = Integer.MAX_VALUE;
-
-    /** index, sub, bytes, kind, START, least, greatest, in the order of the document. */
-    private static final int[][] OBJECTS = {
-        {0x1001, 0, 1, R, 0, 0, 0}, {0x1010, 1, 4, W, 0, 0, 0}, {0x1011, 1, 4, W, 0, 0, 0},
-        {0x1016, 1, 4, B, 0, 0, 8388607}, {0x1017, 0, 2, B, 0, 0, 65535},
-        {0x1600, 0, 1, M, 1, 0, 3}, {0x1600, 1, 4, M, 0x60400010, LOW, HIGH}, {0x1600, 2, 4, M, 0, LOW, HIGH},
-        {0x1600, 3, 4, M, 0, LOW, HIGH}, {0x1800, 2, 1, B, 255, 0, 255}, {0x1800, 3, 2, B, 0, 0, 65535},
-        {0x1800, 5, 2, B, 0, 0, 65535},
-        {0x1A00, 0, 1, M, 1, 0, 3}, {0x1A00, 1, 4, M, 0x60410010, LOW, HIGH}, {0x1A00, 2, 4, M, 0, LOW, HIGH},
-        {0x1A00, 3, 4, M, 0, LOW, HIGH},
-        {0x6040, 0, 2, B, 0, 0, 65535}, {0x6041, 0, 2, R, 0x40, 0, 0}, {0x6060, 0, 1, B, 1, 1, 3},
-        {0x6064, 0, 4, R, 0, 0, 0}, {0x6065, 0, 4, S, 100000, 0, 100000}, {0x606B, 0, 4, R, 0, 0, 0},
-        {0x607A, 0, 4, B, 0, -100000, 100000}, {0x607D, 1, 4, S, -100000, -100000, 100000},
-        {0x607D, 2, 4, S, 100000, -100000, 100000}, {0x607F, 0, 4, S, 1000, 1, 1000},
-        {0x6081, 0, 4, B, 100, 1, 1000}, {0x6083, 0, 4, S, 10, 1, 1000}, {0x6085, 0, 4, S, 50, 1, 1000},
-        {0x60FF, 0, 4, B, 0, -1000, 1000},
-    };
+    private static final int R = Dictionary.R;
+    private static final int W = Dictionary.W;
+    private static final int S = Dictionary.S;
+    private static final int LOW = Dictionary.LOW;
+    private static final int HIGH = Dictionary.HIGH;
+    private static final int[][] OBJECTS = Dictionary.OBJECTS;
 
     public static void main(String[] args) {
         reads();
@@ -40,10 +22,6 @@ public final class ChannelTest {
         Check.end();
     }
 
-    private static String name(int[] object) {
-        return Integer.toHexString(object[0]) + ":" + object[1];
-    }
-
     private static long refusal(int index, int sub, int code) {
         return Bench.frame(0x80, index, sub, code);
     }
@@ -55,8 +33,8 @@ public final class ChannelTest {
             long answer = bench.ask(0x40, o[0], o[1], 0x12345678);
             int command = o[2] == 1 ? 0x4F : o[2] == 2 ? 0x4B : 0x43;
             long due = o[3] == W ? refusal(o[0], o[1], 0x06010001) : Bench.frame(command, o[0], o[1], o[4]);
-            Check.same("read " + name(o), answer, due);
-            Check.same("object " + name(o), bench.servo.object(o[0], o[1]), o[4]);
+            Check.same("read " + Dictionary.name(o), answer, due);
+            Check.same("object " + Dictionary.name(o), bench.servo.object(o[0], o[1]), o[4]);
         }
     }
 
@@ -97,8 +75,8 @@ public final class ChannelTest {
                 Bench bench = new Bench(6);
                 int due = o[3] == R ? 0x06010002 : 0x06070010;
                 if (o[3] == R || bytes != o[2]) {
-                    Check.same("write " + bytes + " bytes to " + name(o), bench.code(o[0], o[1], bytes, 1), due);
-                    Check.same("unchanged " + name(o), bench.servo.object(o[0], o[1]), o[4]);
+                    Check.same("write " + bytes + " bytes to " + Dictionary.name(o), bench.code(o[0], o[1], bytes, 1), due);
+                    Check.same("unchanged " + Dictionary.name(o), bench.servo.object(o[0], o[1]), o[4]);
                 }
             }
         }
@@ -142,8 +120,8 @@ public final class ChannelTest {
 
     private static void check(Bench bench, int[] o, int value, int code) {
         int before = bench.servo.object(o[0], o[1]);
-        Check.same("write " + value + " to " + name(o), bench.code(o[0], o[1], o[2], value), code);
-        Check.same("then " + name(o), bench.servo.object(o[0], o[1]), code == 0 ? value : before);
+        Check.same("write " + value + " to " + Dictionary.name(o), bench.code(o[0], o[1], o[2], value), code);
+        Check.same("then " + Dictionary.name(o), bench.servo.object(o[0], o[1]), code == 0 ? value : before);
     }
 
     private static void otherCommands() {
@@ -180,49 +158,21 @@ public final class ChannelTest {
         for (int state = 1; state <= 7; state++) {
             for (int[] o : OBJECTS) {
                 if (o[3] == S) {
-                    Bench bench = inState(state);
+                    Bench bench = Bench.inState(state);
                     boolean on = state >= 4 && state <= 6;
-                    String what = "write " + name(o) + " in " + state;
+                    String what = "write " + Dictionary.name(o) + " in " + state;
                     Check.same(what, bench.code(o[0], o[1], 4, 7), on ? 0x08000022 : 0);
-                    Check.same("then " + name(o), bench.servo.object(o[0], o[1]), on ? o[4] : 7);
+                    Check.same("then " + Dictionary.name(o), bench.servo.object(o[0], o[1]), on ? o[4] : 7);
                     Check.same(what + " with 1 byte", bench.code(o[0], o[1], 1, 7), 0x06070010);
                     Check.same(what + " too much", bench.code(o[0], o[1], 4, 100001), on ? 0x08000022 : 0x06090031);
                 }
             }
-            Bench bench = inState(state);
+            Bench bench = Bench.inState(state);
             bench.set(0x607A, 0, 4, 9);
             bench.set(0x6081, 0, 4, 9);
             bench.set(0x60FF, 0, 4, 9);
             bench.set(0x6060, 0, 1, 3);
         }
-    }
-
-    private static Bench inState(int state) {
-        Bench bench = new Bench(6);
-        if (state <= 4) {
-            if (state > 1) {
-                bench.powerTo(state, 0);
-            }
-            return bench;
-        }
-        if (state == 7) {
-            bench.servo.bus(false);
-            bench.servo.bus(true);
-            return bench;
-        }
-        bench.set(0x607A, 0, 4, 100000);
-        bench.set(0x6081, 0, 4, 1000);
-        bench.powerTo(4, 0);
-        bench.servo.run(20);
-        if (state == 5) {
-            bench.control(2);
-            bench.servo.run(1);
-        } else {
-            bench.servo.bus(false);
-            bench.servo.bus(true);
-        }
-        Check.same("state", bench.servo.power(), state);
-        return bench;
     }
 
     private static void mappingOnly() {

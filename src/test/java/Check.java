@@ -2,8 +2,32 @@
 final class Check {
     private static int made = 0;
     private static int wrong = 0;
+    private static String sentence = "";
+    private static int madeBefore = 0;
+    private static int wrongBefore = 0;
 
     private Check() {
+    }
+
+    /** The words of the document that the answers after this one are asked for. */
+    static void sentence(String words) {
+        endSentence();
+        sentence = words;
+        madeBefore = made;
+        wrongBefore = wrong;
+    }
+
+    private static void endSentence() {
+        if (sentence.isEmpty()) {
+            return;
+        }
+        if (made == madeBefore) {
+            wrong++;
+            System.out.println("no answer was asked for: " + sentence);
+        }
+        if (wrong != wrongBefore) {
+            System.out.println("does not hold: " + sentence);
+        }
     }
 
     static void same(String what, long got, long due) {
@@ -25,6 +49,7 @@ final class Check {
 
     /** To be called at the end of each test's main method. */
     static void end() {
+        endSentence();
         System.out.println(made + " answers, " + wrong + " wrong");
         if (made == 0 || wrong != 0) {
             System.exit(1);

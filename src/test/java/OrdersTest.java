@@ -50,40 +50,9 @@ public final class OrdersTest {
         }
     }
 
-    /** A drive in this state, in 4 to 6 with a speed of 200; bit 7 of CONTROL was 0 at the tick before. */
-    private static Bench inState(int state) {
-        Bench bench = new Bench(5);
-        bench.set(0x607A, 0, 4, 100000);
-        if (state == 7) {
-            bench.servo.bus(false);
-            bench.servo.bus(true);
-            return bench;
-        }
-        if (state < 4) {
-            if (state > 1) {
-                bench.powerTo(state, 0);
-            }
-            return bench;
-        }
-        bench.set(0x6081, 0, 4, 1000);
-        bench.powerTo(4, 0);
-        bench.servo.run(19);
-        Check.same("speed", bench.servo.speed(), 200);
-        if (state == 5) {
-            bench.control(2);
-            bench.servo.run(1);
-        }
-        if (state == 6) {
-            bench.servo.bus(false);
-            bench.servo.bus(true);
-        }
-        Check.same("state", bench.servo.power(), state);
-        return bench;
-    }
-
     private static void allControls(int state) {
         for (int control = 0; control < 512; control++) {
-            Bench bench = inState(state);
+            Bench bench = Bench.inState(state);
             Check.same("STATUS in " + state, bench.status(), STATUS[state]);
             bench.control(control);
             int after = AFTER[state][order(control, false)];
@@ -96,7 +65,7 @@ public final class OrdersTest {
     }
 
     private static void faults(int state) {
-        Bench bench = inState(state);
+        Bench bench = Bench.inState(state);
         int errors = bench.servo.object(0x1001, 0);
         bench.set(0x1016, 1, 4, 9 << 16 | 1);
         bench.servo.receive(0x709, 1, 5);
@@ -113,7 +82,7 @@ public final class OrdersTest {
     }
 
     private static void standing() {
-        Bench bench = inState(5);
+        Bench bench = Bench.inState(5);
         for (int k = 0; k < 3; k++) {
             Check.same("still moving", bench.servo.run(1), 1);
         }
@@ -122,13 +91,13 @@ public final class OrdersTest {
         bench.control(15);
         Check.same("the end of the quick stop", bench.servo.run(1), 0);
         Check.same("disabled", bench.servo.power(), 1);
-        Bench none = inState(5);
+        Bench none = Bench.inState(5);
         none.control(0x80);
         none.servo.run(3);
         Check.same("quick stop without an order", none.servo.power(), 5);
         none.servo.run(1);
         Check.same("disabled without an order", none.servo.power(), 1);
-        Bench faulty = inState(6);
+        Bench faulty = Bench.inState(6);
         Check.same("reacting", faulty.servo.run(4), 4);
         Check.same("speed", faulty.servo.speed(), 0);
         Check.same("reacting", faulty.servo.power(), 6);
