@@ -55,7 +55,7 @@ public final class ChannelEdgesTest {
     }
 
     private static void lengthEight() {
-        Check.sentence("Frames 0x600 + N of length 8");
+        Check.sentence("Frames 0x600 + N of length 8: byte 0 a command, bytes 1, 2 an index, byte 3 a sub, bytes 4 .. 7 a value");
         Bench bench = new Bench(5);
         bench.drain();
         for (int length = 0; length < 8; length++) {

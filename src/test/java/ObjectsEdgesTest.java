@@ -8,6 +8,7 @@ public final class ObjectsEdgesTest {
     public static void main(String[] args) {
         ranges();
         notNegative();
+        readOnly();
         kindR();
         kindW();
         kindB();
@@ -119,6 +120,18 @@ public final class ObjectsEdgesTest {
         bench.in(6, 0xFFFFFFFE_8000L);
         Check.same("two bytes of IN", bench.value(0x6040, 0), 32768);
         Check.same("four bytes of IN", bench.value(0x607A, 0), -2);
+    }
+
+    private static void readOnly() {
+        Check.sentence("1001:0 ERRORS [1, r]");
+        Bench bench = Bench.inState(7);
+        Check.same("its bytes", bench.ask(0x40, 0x1001, 0, 0), Bench.frame(0x4F, 0x1001, 0, 0x11));
+        Check.sentence("6041:0 STATUS [2, r]");
+        Check.same("its bytes", bench.ask(0x40, 0x6041, 0, 0), Bench.frame(0x4B, 0x6041, 0, 0x08));
+        Check.sentence("606B:0 SPEED [4, r]");
+        Bench back = new Bench(5);
+        back.powerTo(4, 100);
+        Check.same("its bytes", back.ask(0x40, 0x606B, 0, 0), Bench.frame(0x43, 0x606B, 0, -10));
     }
 
     private static void kindR() {

@@ -34,6 +34,7 @@ public final class PowerEdgesTest {
         faultInSixAndSeven();
         faultElsewhere();
         errorsOfFaults();
+        emergencySent();
         emergencyBytes();
         emergencyInStopped();
         Check.end();
@@ -382,6 +383,18 @@ public final class PowerEdgesTest {
         Bench bus = new Bench(5);
         bus.servo.bus(false);
         Check.same("0x8140", bus.value(0x1001, 0), 0x11);
+    }
+
+    private static void emergencySent() {
+        Check.sentence("an EMERGENCY is sent");
+        for (int state = 1; state <= 5; state++) {
+            Bench bench = Bench.inState(state);
+            bench.watch(1);
+            bench.drain();
+            bench.servo.run(1);
+            bench.expect("from " + state, 0x85, 8, 0x11_8130L);
+            bench.expectNothing("one only");
+        }
     }
 
     private static void emergencyBytes() {

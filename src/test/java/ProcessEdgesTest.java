@@ -32,7 +32,7 @@ public final class ProcessEdgesTest {
     }
 
     private static void enoughBytes() {
-        Check.sentence("with a COUNT IN of 1 or more and at least the bytes of all its entries");
+        Check.sentence("IN: 0x200 + N; with a COUNT IN of 1 or more and at least the bytes of all its entries");
         int[][] mappings = {{MODE}, {CONTROL}, {TARGET}, {MODE, TARGET}, {TARGET, PROFILE}, {CONTROL, CONTROL, TARGET}};
         int[] bytes = {1, 2, 4, 5, 8, 8};
         for (int k = 0; k < mappings.length; k++) {

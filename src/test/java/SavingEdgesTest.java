@@ -77,6 +77,21 @@ public final class SavingEdgesTest {
     }
 
     private static void wordsInOrder() {
+        Check.sentence("Those with a * are KEPT.");
+        for (int[] o : Dictionary.OBJECTS) {
+            boolean kept = false;
+            for (int[] k : KEPT) {
+                kept |= k[0] == o[0] && k[1] == o[1];
+            }
+            if (o[3] == Dictionary.B) {
+                Bench bench = new Bench(5);
+                bench.set(o[0], o[1], o[2], 3);
+                save(bench);
+                bench.servo.run(23);
+                bench.servo.restart();
+                Check.same("kept " + Dictionary.name(o), bench.value(o[0], o[1]), kept ? 3 : o[4]);
+            }
+        }
         Check.sentence("word 0 is the SERIAL, words 1 .. 21 the KEPT objects in the order above");
         Bench bench = new Bench(5);
         change(bench);
