@@ -342,6 +342,7 @@ public final class ChannelEdgesTest {
                 Bench bench = new Bench(5);
                 Check.same("the entry of " + Dictionary.name(o), count(bench, OUT, 1, entry), 0);
                 Check.same("8 bits more", count(bench, OUT, 1, entry + 8), NOT_MAPPED);
+                Check.same("1 bit more", count(bench, OUT, 1, entry + 1), NOT_MAPPED);
                 Check.same("1 bit less", count(bench, OUT, 1, entry - 1), NOT_MAPPED);
             }
         }

@@ -299,12 +299,25 @@ public final class ObjectsEdgesTest {
         Check.same("a refused write", bench.code(0x1016, 1, 4, 8388608), TOO_GREAT);
         bench.servo.run(3);
         Check.same("does not disarm", bench.servo.power(), 7);
-        Bench others = new Bench(5);
-        others.watch(3);
-        others.set(0x1017, 0, 2, 0);
-        others.set(0x1800, 2, 1, 255);
-        others.servo.run(3);
-        Check.same("nor do BEAT and TYPE", others.servo.power(), 7);
+        for (int[] o : Dictionary.OBJECTS) {
+            Bench others = new Bench(5);
+            others.watch(3);
+            if (writeAnother(others, o, 0x1016)) {
+                others.servo.run(3);
+                Check.same("nor does " + Dictionary.name(o), others.servo.power(), 7);
+            }
+        }
+    }
+
+    /** Writes some value that is right to an object of another index; false if it is never written or is this index. */
+    private static boolean writeAnother(Bench bench, int[] o, int index) {
+        boolean entry = o[3] == Dictionary.M && o[1] != 0;
+        if (o[0] == index || o[3] == Dictionary.R || entry) {
+            return false;
+        }
+        int sign = o[0] == 0x1010 ? 0x65766173 : 0x64616F6C;
+        bench.set(o[0], o[1], o[2], o[3] == Dictionary.W ? sign : 1);
+        return true;
     }
 
     private static void writingBeat() {
@@ -318,10 +331,17 @@ public final class ObjectsEdgesTest {
         bench.servo.run(3);
         bench.expectNothing("even with the same value");
         Check.same("a refused write", bench.code(0x1017, 0, 4, 4), 0x06070010);
-        bench.set(0x1016, 1, 4, 5);
-        bench.set(0x1800, 2, 1, 255);
         bench.servo.run(1);
-        bench.expect("it, WATCH and TYPE leave the count", 0x705, 1, 127);
+        bench.expect("leaves the count", 0x705, 1, 127);
+        for (int[] o : Dictionary.OBJECTS) {
+            Bench others = new Bench(5);
+            others.set(0x1017, 0, 2, 4);
+            others.servo.run(3);
+            if (writeAnother(others, o, 0x1017)) {
+                others.servo.run(1);
+                others.expect("so does " + Dictionary.name(o), 0x705, 1, 127);
+            }
+        }
     }
 
     private static void writingType() {
@@ -337,10 +357,21 @@ public final class ObjectsEdgesTest {
         bench.sync();
         bench.expectNothing("even with the same value");
         Check.same("a refused write", bench.code(0x1800, 2, 2, 3), 0x06070010);
-        bench.set(0x1016, 1, 4, 5);
-        bench.set(0x1017, 0, 2, 900);
         bench.sync();
-        bench.expect("it, WATCH and BEAT leave the count", 0x185, 2, 0x240);
+        bench.expect("leaves the count", 0x185, 2, 0x240);
+        for (int[] o : Dictionary.OBJECTS) {
+            Bench others = new Bench(5);
+            others.set(0x1800, 2, 1, 2);
+            others.operate();
+            others.sync();
+            others.prepare();
+            boolean type = o[0] == 0x1800 && o[1] == 2;
+            if (!type && writeAnother(others, o, 0)) {
+                others.operate();
+                others.sync();
+                others.expect("so does " + Dictionary.name(o), 0x185, 2, 0x240);
+            }
+        }
         bench.sync();
         bench.sync();
         bench.set(0x1800, 2, 1, 2);

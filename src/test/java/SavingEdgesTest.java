@@ -133,6 +133,15 @@ public final class SavingEdgesTest {
             Check.same("word " + word, bench.servo.word(0, word), k[2]);
             Check.same("the object is as before", bench.value(k[0], k[1]), k[3]);
         }
+        save(bench);
+        bench.servo.run(23);
+        restore(bench);
+        bench.servo.run(23);
+        Check.same("the SERIAL", bench.servo.word(0, 0), 3);
+        for (int word = 1; word <= 21; word++) {
+            Check.same("after a SAVE, word " + word, bench.servo.word(0, word), KEPT[word - 1][2]);
+            Check.same("what SAVE wrote stays, word " + word, bench.servo.word(1, word), KEPT[word - 1][3]);
+        }
     }
 
     private static void lesserSerial() {

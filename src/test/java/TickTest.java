@@ -310,7 +310,9 @@ public final class TickTest {
             bench.operate();
             bench.drain();
             bench.servo.tick(7);
-            for (int round = 0; round < 2; round++) {
+            // an object has 512 calls, too few for 240 SYNC frames twice over
+            int rounds = type == 240 ? 1 : 2;
+            for (int round = 0; round < rounds; round++) {
                 for (int k = 1; k < type && k < 200; k++) {
                     bench.servo.receive(0x80, 0, 0);
                 }

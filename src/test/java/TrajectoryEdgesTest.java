@@ -83,6 +83,12 @@ public final class TrajectoryEdgesTest {
             bench.set(0x607A, 0, 4, 100000);
             moves(bench, row[2], row[2]);
         }
+        for (int cap = 1; cap <= 1000; cap++) {
+            Bench bench = drive(1000, 1000, 0);
+            bench.set(0x6081, 0, 4, cap);
+            bench.set(0x607A, 0, 4, 100000);
+            moves(bench, cap);
+        }
     }
 
     private static void capOfModeThree() {
@@ -176,6 +182,13 @@ public final class TrajectoryEdgesTest {
             moves(bench, sign * 30, sign * 60, sign * 90, sign * 100);
             bench.set(0x607A, 0, 4, sign * -100000);
             moves(bench, sign * 70, sign * 40, sign * 10, 0, sign * -30);
+        }
+        for (int sign = -1; sign <= 1; sign += 2) {
+            Bench slow = drive(1, 1, 0);
+            slow.set(0x607A, 0, 4, sign * 100);
+            moves(slow, sign);
+            slow.set(0x607A, 0, 4, sign * -100);
+            moves(slow, 0, -sign);
         }
         Bench turned = drive(1000, 1000, 0);
         turned.set(0x6060, 0, 1, 3);
