@@ -725,7 +725,8 @@ public final class BusServo {
 
         static int totalBytes(int[] values, int countSlot) {
             int total = 0;
-            for (int k = 1; k <= values[countSlot]; k++) {
+            int count = values[countSlot];
+            for (int k = 1; k <= count; k++) {
                 total += (values[countSlot + k] & 0xFF) / 8;
             }
             return total;
@@ -734,7 +735,8 @@ public final class BusServo {
         static long pack(int[] values) {
             long data = 0L;
             int shift = 0;
-            for (int k = 1; k <= values[Catalog.COUNT_OUT]; k++) {
+            int count = values[Catalog.COUNT_OUT];
+            for (int k = 1; k <= count; k++) {
                 int slot = slotOf(values[Catalog.COUNT_OUT + k]);
                 if (slot != Catalog.NONE) {
                     data |= (values[slot] & 0xFFFFFFFFL) << shift;
@@ -746,7 +748,9 @@ public final class BusServo {
 
         static void unpack(int[] values, long data) {
             long rest = data;
-            for (int k = 1; k <= values[Catalog.COUNT_IN]; k++) {
+            // the loop writes objects, so its bound is taken before
+            int count = values[Catalog.COUNT_IN];
+            for (int k = 1; k <= count; k++) {
                 int slot = slotOf(values[Catalog.COUNT_IN + k]);
                 if (slot != Catalog.NONE) {
                     int value = number(rest, Catalog.bytes(slot));
